@@ -49,16 +49,23 @@ public final class AttemptTest {
     }
 
     private static void likeModel(int n, int t) {
-        GoppaLockbox box = new GoppaLockbox(n, t);
-        Model model = new Model(n, t);
         long[] starts = {0, -30, Long.MAX_VALUE - 15, 1L << 40, -(1L << 50) + n};
         for (long start : starts) {
-            for (int k = 0; k < 30; k++) {
-                long coins = start + k;
-                String name = "attempt(" + coins + ") of " + n + ", " + t;
-                Check.due(name, model.attempt(coins), () -> box.attempt(coins));
-                Keys.same(name, box, model);
+            // A box is for 512 calls: four attempts with all that can be seen after each.
+            for (int k = 0; k < 32; k += 4) {
+                fourAttempts(n, t, start + k);
             }
+        }
+    }
+
+    private static void fourAttempts(int n, int t, long first) {
+        GoppaLockbox box = new GoppaLockbox(n, t);
+        Model model = new Model(n, t);
+        for (int k = 0; k < 4; k++) {
+            long coins = first + k;
+            String name = "attempt(" + coins + ") of " + n + ", " + t;
+            Check.due(name, model.attempt(coins), () -> box.attempt(coins));
+            Keys.same(name, box, model);
         }
     }
 

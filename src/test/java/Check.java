@@ -6,8 +6,31 @@ final class Check {
 
     private static int wrong = 0;
     private static int made = 0;
+    private static int madeBefore = 0;
+    private static String sentence = "";
 
     private Check() {
+    }
+
+    /**
+     * Says to which sentence of the document, and of which promise, the next answers belong. One behind which
+     * no answer is looked at is wrong too.
+     */
+    static void sentence(String text) {
+        endSentence();
+        sentence = text;
+        madeBefore = made;
+    }
+
+    private static void endSentence() {
+        if (!sentence.isEmpty() && made == madeBefore) {
+            wrong("nothing was looked at");
+        }
+    }
+
+    private static void wrong(String what) {
+        wrong++;
+        System.out.println(sentence.isEmpty() ? what : "[" + sentence + "] " + what);
     }
 
     /** Due is the answer itself (an Integer, Long or Boolean) or the class of the exception that is due. */
@@ -15,16 +38,14 @@ final class Check {
         Object got = outcome(call);
         made++;
         if (!got.equals(due)) {
-            wrong++;
-            System.out.println(name + " answered " + got + ", due is " + due);
+            wrong(name + " answered " + got + ", due is " + due);
         }
     }
 
     static void holds(String name, boolean fact) {
         made++;
         if (!fact) {
-            wrong++;
-            System.out.println("not so: " + name);
+            wrong("not so: " + name);
         }
     }
 
@@ -37,6 +58,7 @@ final class Check {
     }
 
     static void finish() {
+        endSentence();
         System.out.println(made + " answers looked at, " + wrong + " wrong");
         if (wrong != 0 || made == 0) {
             System.exit(1);

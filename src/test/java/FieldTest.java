@@ -4,7 +4,7 @@ public final class FieldTest {
 
     public static void main(String[] args) {
         GoppaLockbox box = new GoppaLockbox(16, 2);
-        everyProduct(box);
+        everyProduct();
         everyInverse(box);
         wrongInputs(box);
         box.search(1);
@@ -17,8 +17,9 @@ public final class FieldTest {
         Check.finish();
     }
 
-    private static void everyProduct(GoppaLockbox box) {
+    private static void everyProduct() {
         for (int i = 0; i < 32; i++) {
+            GoppaLockbox box = new GoppaLockbox(16, 2);
             for (int j = 0; j < 32; j++) {
                 int a = i;
                 int b = j;

@@ -1,5 +1,7 @@
 /** Compares all that can be seen of a box's key with the model's. */
 final class Keys {
+    static final int CALLS = 107;
+
     private Keys() {
     }
 

@@ -1,21 +1,31 @@
+import java.util.Map;
+
 /** Promises 9 and 10: hide and find, over every pattern and many syndromes, and with wrong inputs. */
 public final class PatternTest {
+    // A box is for 512 calls; hide and find of this many patterns, or as many syndromes, stay below that.
+    private static final int PER_BOX = 250;
+
     public static void main(String[] args) {
         for (int n : new int[] {16, 21, 31, 32}) {
             for (int t = 2; t <= 3; t++) {
-                GoppaLockbox box = new GoppaLockbox(n, t);
+                withoutKey(new GoppaLockbox(n, t));
                 Model model = new Model(n, t);
-                withoutKey(box);
-                box.search(200 + n);
                 model.search(200 + n);
-                everyPattern(box, model);
+                everyPattern(model);
+                everySyndrome(model);
+                GoppaLockbox box = likeModel(model);
                 wrongPatterns(box, n, t);
-                everySyndrome(box, model);
                 wrongSyndromes(box, t);
                 Keys.same("hide and find change nothing", box, model);
             }
         }
         Check.finish();
+    }
+
+    private static GoppaLockbox likeModel(Model model) {
+        GoppaLockbox box = new GoppaLockbox(model.n, model.t);
+        box.search(200 + model.n);
+        return box;
     }
 
     private static void withoutKey(GoppaLockbox box) {
@@ -25,11 +35,19 @@ public final class PatternTest {
         }
     }
 
-    private static void everyPattern(GoppaLockbox box, Model model) {
-        model.key.patterns().forEach((syndrome, pattern) -> {
+    private static void everyPattern(Model model) {
+        GoppaLockbox fresh = likeModel(model);
+        int count = 0;
+        for (Map.Entry<Integer, Integer> entry : model.key.patterns().entrySet()) {
+            if (++count % PER_BOX == 0) {
+                fresh = likeModel(model);
+            }
+            GoppaLockbox box = fresh;
+            int syndrome = entry.getKey();
+            int pattern = entry.getValue();
             Check.due("hide(" + pattern + ")", syndrome, () -> box.hide(pattern));
             Check.due("find(" + syndrome + ")", pattern, () -> box.find(syndrome));
-        });
+        }
     }
 
     private static void wrongPatterns(GoppaLockbox box, int n, int t) {
@@ -46,14 +64,17 @@ public final class PatternTest {
         }
     }
 
-    private static void everySyndrome(GoppaLockbox box, Model model) {
+    private static void everySyndrome(Model model) {
+        GoppaLockbox fresh = likeModel(model);
         for (int number = 0; number < 1 << model.m; number++) {
+            if (number % PER_BOX == 0) {
+                fresh = likeModel(model);
+            }
+            GoppaLockbox box = fresh;
             int syndrome = number;
             Check.due("find(" + syndrome + ")", Check.outcome(() -> model.find(syndrome)),
                 () -> box.find(syndrome));
         }
-        Check.due("find(0)", ArithmeticException.class, () -> box.find(0));
-        Check.due("find(1)", ArithmeticException.class, () -> box.find(1));
     }
 
     private static void wrongSyndromes(GoppaLockbox box, int t) {

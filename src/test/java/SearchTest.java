@@ -37,9 +37,15 @@ public final class SearchTest {
     }
 
     private static void firstKey(int n, int t) {
+        firstKeys(n, t, 0, 1, -1, -7);
+        firstKeys(n, t, 77, 5000, Long.MIN_VALUE, Long.MAX_VALUE);
+        firstKeys(n, t, Long.MAX_VALUE - 1, 1L << 33, -(1L << 33), 14);
+    }
+
+    private static void firstKeys(int n, int t, long... someCoins) {
         GoppaLockbox box = new GoppaLockbox(n, t);
         Model model = new Model(n, t);
-        for (long coins : new long[] {0, 1, -1, -7, 77, 5000, Long.MIN_VALUE, Long.MAX_VALUE, 1L << 33}) {
+        for (long coins : someCoins) {
             String name = "search(" + coins + ") of " + n + ", " + t;
             Check.due(name, Check.outcome(() -> model.search(coins)), () -> box.search(coins));
             Keys.same(name, box, model);
