@@ -1,7 +1,7 @@
 /** Promise 3: "The inverse of an element. IllegalArgumentException: a is none; ArithmeticException: a is 0." */
 public final class Promise03EdgesTest {
-    private static final int[] INVERSES_FROM_1 = {1, 18, 28, 9, 23, 14, 12, 22, 4, 25, 16, 7, 15, 6, 13, 11, 24, 2, 29, 30,
-        26, 8, 5, 17, 10, 21, 31, 3, 19, 20, 27};
+    private static final int[] INVERSES_FROM_1 = {1, 18, 28, 9, 23, 14, 12, 22, 4, 25, 16, 7, 15, 6, 13, 11, 24, 2, 29,
+        30, 26, 8, 5, 17, 10, 21, 31, 3, 19, 20, 27};
     private static final int[] TOO_SMALL = {-1, -2, -31, -32, Integer.MIN_VALUE};
     private static final int[] TOO_LARGE = {32, 33, 63, 64, 1 << 30, Integer.MAX_VALUE};
 

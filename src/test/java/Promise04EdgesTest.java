@@ -134,8 +134,8 @@ public final class Promise04EdgesTest {
     }
 
     /** Looks at the ends of the key of length 32, and at the secret: no pattern has the syndrome 0. */
-    private static void makes(long coins, int[] polynomial, int firstElement, int lastElement, int firstRow, int lastRow,
-        long opened) {
+    private static void makes(long coins, int[] polynomial, int firstElement, int lastElement, int firstRow,
+        int lastRow, long opened) {
         int t = polynomial.length - 1;
         GoppaLockbox box = Known.box(32, t);
         String name = " after attempt(" + coins + ")";

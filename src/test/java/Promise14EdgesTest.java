@@ -57,13 +57,26 @@ public final class Promise14EdgesTest {
         Check.due("erase() after two keys", true, box::erase);
         Check.due("the first of the two is not there", false, box::erase);
         Check.due("all", Known.noKey(0), () -> Known.seen(box));
+        Check.sentence("Promise 14: a key made after an erase stays when attempts after it fail");
+        GoppaLockbox second = Known.box(n, t);
+        second.erase();
+        second.attempt(Known.coins(t));
+        for (long coins : failing(t)) {
+            second.attempt(coins);
+            Check.due("all after attempt(" + coins + ")", Known.key(n, t, 0), () -> Known.seen(second));
+        }
+    }
+
+    /** Coins with which an attempt fails with 1, with 2 and with 3. */
+    private static long[] failing(int t) {
+        return t == 2 ? new long[] {7870, 82903, 1936} : new long[] {54, 82903, 41525};
     }
 
     private static void failuresBringNothingBack(int n, int t) {
         Check.sentence("Promise 14: answers whether there was one: failed attempts bring none back");
         GoppaLockbox box = Known.box(n, t);
         box.erase();
-        for (long coins : t == 2 ? new long[] {7870, 82903, 1936} : new long[] {54, 82903, 41525}) {
+        for (long coins : failing(t)) {
             box.attempt(coins);
             Check.due("erase() after attempt(" + coins + ")", false, box::erase);
         }
