@@ -1,3 +1,5 @@
+import java.util.Map;
+
 /** Counts and prints the answers that are not due; a test ends with finish(). */
 final class Check {
     interface Call {
@@ -33,11 +35,22 @@ final class Check {
         System.out.println(sentence.isEmpty() ? what : "[" + sentence + "] " + what);
     }
 
-    /** Due is the answer itself (an Integer, Long or Boolean) or the class of the exception that is due. */
+    /**
+     * Due is the answer itself (an Integer, Long or Boolean), or the class of the exception that is due, or a map of
+     * calls with such answers.
+     */
     static void due(String name, Object due, Call call) {
         Object got = outcome(call);
         made++;
-        if (!got.equals(due)) {
+        if (got instanceof Map<?, ?> answers && due instanceof Map<?, ?> dues) {
+            dues.forEach((key, answer) -> compare(name + ": " + key, answer, answers.get(key)));
+        } else {
+            compare(name, due, got);
+        }
+    }
+
+    private static void compare(String name, Object due, Object got) {
+        if (!due.equals(got)) {
             wrong(name + " answered " + got + ", due is " + due);
         }
     }

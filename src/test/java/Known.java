@@ -1,5 +1,5 @@
-import java.util.ArrayList;
-import java.util.List;
+import java.util.LinkedHashMap;
+import java.util.Map;
 
 /**
  * Two keys whose every number was worked out apart from the program and from the model: the one of weight 2
@@ -61,45 +61,45 @@ final class Known {
         return OPENED[t - 2][syndrome];
     }
 
-    /** What is due of a box that has this key, in the order of seen(box). */
-    static List<Object> key(int n, int t, long shared) {
-        List<Object> due = new ArrayList<>();
+    /** What seen(box) is to be for a box that has this key. */
+    static Map<String, Object> key(int n, int t, long shared) {
+        Map<String, Object> due = new LinkedHashMap<>();
         for (int i = -1; i <= 32; i++) {
-            due.add(i >= 0 && i <= t ? coefficient(t, i) : NONE);
-            due.add(i >= 0 && i < n ? support(t, i) : NONE);
-            due.add(i >= 0 && i < 5 * t ? row(n, t, i) : NO_ARGUMENT);
+            due.put("coefficient(" + i + ")", i >= 0 && i <= t ? coefficient(t, i) : NONE);
+            due.put("support(" + i + ")", i >= 0 && i < n ? support(t, i) : NONE);
+            due.put("row(" + i + ")", i >= 0 && i < 5 * t ? row(n, t, i) : NO_ARGUMENT);
         }
-        due.add(opened(t, 0));
-        due.add(opened(t, 1));
-        due.add(shared);
+        due.put("open(0)", opened(t, 0));
+        due.put("open(1)", opened(t, 1));
+        due.put("shared()", shared);
         return due;
     }
 
-    static List<Object> noKey(long shared) {
-        List<Object> due = new ArrayList<>();
+    static Map<String, Object> noKey(long shared) {
+        Map<String, Object> due = new LinkedHashMap<>();
         for (int i = -1; i <= 32; i++) {
-            due.add(NONE);
-            due.add(NONE);
-            due.add(NO_KEY);
+            due.put("coefficient(" + i + ")", NONE);
+            due.put("support(" + i + ")", NONE);
+            due.put("row(" + i + ")", NO_KEY);
         }
-        due.add(NO_KEY);
-        due.add(NO_KEY);
-        due.add(shared);
+        due.put("open(0)", NO_KEY);
+        due.put("open(1)", NO_KEY);
+        due.put("shared()", shared);
         return due;
     }
 
     /** All that can be seen of a box's state, by 105 calls that change nothing. */
-    static List<Object> seen(GoppaLockbox box) {
-        List<Object> seen = new ArrayList<>();
+    static Map<String, Object> seen(GoppaLockbox box) {
+        Map<String, Object> seen = new LinkedHashMap<>();
         for (int k = -1; k <= 32; k++) {
             int i = k;
-            seen.add(Check.outcome(() -> box.coefficient(i)));
-            seen.add(Check.outcome(() -> box.support(i)));
-            seen.add(Check.outcome(() -> box.row(i)));
+            seen.put("coefficient(" + i + ")", Check.outcome(() -> box.coefficient(i)));
+            seen.put("support(" + i + ")", Check.outcome(() -> box.support(i)));
+            seen.put("row(" + i + ")", Check.outcome(() -> box.row(i)));
         }
-        seen.add(Check.outcome(() -> box.open(0)));
-        seen.add(Check.outcome(() -> box.open(1)));
-        seen.add(Check.outcome(box::shared));
+        seen.put("open(0)", Check.outcome(() -> box.open(0)));
+        seen.put("open(1)", Check.outcome(() -> box.open(1)));
+        seen.put("shared()", Check.outcome(box::shared));
         return seen;
     }
 }

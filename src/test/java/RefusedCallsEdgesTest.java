@@ -1,4 +1,4 @@
-import java.util.List;
+import java.util.Map;
 
 /**
  * Terms: "a call that throws, or answers NONE, changes nothing", for each of the promises 2 to 14, on a box in each
@@ -52,7 +52,7 @@ public final class RefusedCallsEdgesTest {
     private static void refused(String name, State state, int n, int t, Object due, BoxCall call) {
         GoppaLockbox box = box(state, n, t);
         String where = name + " of " + n + ", " + t + ", " + state;
-        List<Object> before = Known.seen(box);
+        Map<String, Object> before = Known.seen(box);
         Check.due(where, due, () -> call.answer(box));
         Check.due("all after " + where, before, () -> Known.seen(box));
         GoppaLockbox spared = box(state, n, t);
